@@ -8,7 +8,7 @@ public final class FaultTest {
     public static void main(String[] args) {
         Due due = new Due();
         for (int sort = 0; sort < 3; sort++) {
-            for (int i = 0; i < 4000; i++) {
+            for (int i = 0; i < 2000; i++) {
                 String text = i % 3 == 0 ? loose(sort) : broken(Texts.whole(RANDOM, sort, 3), sort, i % 3);
                 if (text.length() <= 40) {
                     LiarHall hall = new LiarHall();
