@@ -391,14 +391,12 @@ public final class LiarHall {
             return NONE;
         }
         boolean alike = first.isAlike(second, shuffled);
-        // Of two that are ALIKE the giant always tells the lower number: 0 if that is the first told.
-        int alwaysTold = one < other ? 0 : 1;
         long x = seed;
         int right = 0;
         for (int round = 0; round < rounds; round++) {
             x = x * FACTOR + ADDEND;
-            int which = (int) (x >>> 33 & 1);
-            if (!alike || which == alwaysTold) {
+            // Of two that are ALIKE the giant always tells 0, the first told.
+            if (!alike || (x >>> 33 & 1) == 0) {
                 right++;
             }
         }
@@ -1387,13 +1385,11 @@ public final class LiarHall {
             if (!agrees(held, round)) {
                 return 0;
             }
-            long before = claim;
             int dice = asker.dice(round);
             int rows = 0;
             for (int draw = 0; draw < dice && draw < MOST_ROWS; draw++) {
                 moveOn(held, round, draw);
                 rows += believedFrom(held, round + 1);
-                claim = before;
             }
             return rows;
         }

@@ -16,6 +16,8 @@ public final class PromiseTest {
         giants();
         talks();
         runs();
+        runsOfManyTalks();
+        longTalk();
         giveUps();
         fixedAndTries();
         lawLetters();
@@ -82,6 +84,10 @@ public final class PromiseTest {
         is("feed of two too many", hall.feed(0x6161, 0, 0, 0, 0), -1);
         is("bytes", hall.count(6), 199);
         is("feed of the last", hall.feed(0, 0, 0, 0, 0x61), 200);
+        hall.end(196);
+        is("feed of five bytes to 196", hall.feed(0x01000000, 0x00010000, 0x00000100, 0x00000001, 0x80000000), -1);
+        hall.end(195);
+        is("feed of five bytes to 195", hall.feed(0x01000000, 0x00010000, 0x00000100, 0x00000001, 0x80000000), 200);
     }
 
     private static void faultIs(int sort, String text, int want) {
@@ -99,6 +105,8 @@ public final class PromiseTest {
         faultIs(0, "()", 1);
         faultIs(0, "a!", 1);
         faultIs(0, "A", 0);
+        faultIs(0, "g", 0);
+        faultIs(0, "`", 0);
         faultIs(0, "!!!!((((a))))", -1);
         faultIs(0, "!!!!((((!a))))", 8);
         faultIs(0, "((((((((a))))))))&!!!!!!!!b", -1);
@@ -127,6 +135,9 @@ public final class PromiseTest {
         faultIs(1, "c:[1=1]", 4);
         faultIs(1, "c:[[[[[[1]]]]]]", -1);
         faultIs(1, "c:[[[[[[[1]]]]]]]", 8);
+        faultIs(1, "c:1=[[[[[[1]]]]]]?1", -1);
+        faultIs(1, "c:!!!!!!!1=1?1", 8);
+        faultIs(1, "c:(((((((1=1)))))))?1", 8);
         faultIs(1, "c:!!!(((1=1)))?1", -1);
         faultIs(1, "c:!!!((([1]=1)))?1", 8);
         faultIs(1, "c:!!!((1=[1]))?[[[[[[1]]]]]]", -1);
@@ -367,6 +378,40 @@ public final class PromiseTest {
         is("run by -1", hall.draw(0), (int) ((1442695040888963407L - 6364136223846793005L >>> 33) % 7));
     }
 
+    /** Nothing of a run is left in the next one, of the same TALK or of another. */
+    private static void runsOfManyTalks() {
+        LiarHall hall = Due.talk("a&b", 7, "c:1;e:1;d:p", "s:c+y;v:t");
+        Due.saying(hall, "a|a|b");
+        hall.talk(1, 11, 0, 0);
+        for (int turn = 0; turn < 3; turn++) {
+            is("run of the first", hall.run(0, turn, 0), 1);
+            is("its value", hall.value(0, 1), 1);
+            is("run of the second", hall.run(1, turn, 0), 1);
+            is("its value", hall.value(0, 1), 2);
+            is("given up at once", hall.run(0, turn, 1), 0);
+            is("no draws", hall.latest(3), 0);
+            is("no draw", hall.draw(0), -1);
+            DUE.noValue("no second ROUND", hall, 1, 0);
+            is("odds of the second", hall.odds(1, 0, 0), 121);
+            is("odds of the first", hall.odds(0, 0, 0), 49);
+        }
+    }
+
+    /** A STEEP of 100 is the most. */
+    private static void longTalk() {
+        LiarHall hall = Due.talk(Due.times("a&", 99) + "a", 101, "c:1;e:1;d:p", "s:c;v:t");
+        is("run", hall.run(0, 4, 0), 1);
+        is("value at 100", hall.value(0, 100), 1);
+        is("value at 0", hall.value(0, 0), 0);
+        DUE.noValue("value at 101", hall, 0, 101);
+        is("odds", hall.odds(0, 0, 0), 101);
+        is("roots", hall.roots(0, 0), 100);
+        hall = Due.talk(Due.times("a&", 99) + "a", 1000000007, "c:1;e:1;d:p", "s:c;v:t");
+        is("run", hall.run(0, 4, 0), 1);
+        DUE.is("a far draw", hall.draw(0) > 100, true);
+        is("fixed", hall.fixed(0, 0), 1);
+    }
+
     /** Where the asker gives up; NAMES that stand nowhere have a CURVE of one value. */
     private static void giveUps() {
         LiarHall hall = Due.talk("b", 5, "c:1;e:1;d:1", "s:c;v:t");
@@ -587,6 +632,7 @@ public final class PromiseTest {
         chanceIs("b", 7, "c:i;e:1;d:7", 1, 1, 1, 1);
         chanceIs("a", 7, "c:1;d:7", 1, 1, 1, 1);
         chanceIs("a&a&a&a", 5, all + "2", 1, 2, 1, 1);
+        is("bound alone", Due.talk("a", 7, all + "3", "v:t").bound(0, 1), 3);
         LiarHall hall = Due.talk("a&a&a|c", 7, "c:i<2?1;e:1;d:i=0?3;d:6", "v:t");
         is("roots 0", hall.roots(0, 0), 2);
         is("roots 1", hall.roots(0, 1), 0);
@@ -749,9 +795,9 @@ public final class PromiseTest {
             x = x * 6364136223846793005L + 1442695040888963407L;
             right += (x >>> 33) % 2 == 0 ? 1 : 0;
         }
-        is("the lower first", hall.unlike(0, 2, 9, 30), right);
-        is("the lower second", hall.unlike(2, 0, 9, 30), 30 - right);
-        DUE.is("both tell something", right != 15 && right != 0 && right != 30, true);
+        is("alike", hall.unlike(0, 2, 9, 30), right);
+        is("alike, the higher net told first", hall.unlike(2, 0, 9, 30), right);
+        DUE.is("the run tells something", right != 15 && right != 0 && right != 30, true);
         is("no rounds", hall.unlike(0, 1, 9, 0), -1);
         is("31 rounds", hall.unlike(0, 1, 9, 31), -1);
         is("one and the same", hall.unlike(1, 1, 9, 3), -1);
@@ -767,6 +813,7 @@ public final class PromiseTest {
         is("all agree", hall.rooms(all, 0), 9);
         is("all agree", hall.rooms(all, 1), 9);
         is("none agree", hall.rooms(0, 0), 0);
+        is("none agree", hall.rooms(0, 1), 0);
         // x = 2, y = 1, a = 1, b = 0.
         is("one agreement", hall.rooms(1L << ((2 * 3 + 1) * 2 + 1) * 2, 0), 1);
         long agreeing = 0;
