@@ -1073,7 +1073,7 @@ public final class LiarHall {
         }
 
         /** VALUE of a GAME of which so many NAMES are played and put. */
-        long gameWorth(Saying saying, int turns, long modulus, int played) {
+        private long gameWorth(Saying saying, int turns, long modulus, int played) {
             if (played >= saying.names || played >= MOST_NAMES) {
                 return worthOf(saying, modulus);
             }
@@ -1394,7 +1394,7 @@ public final class LiarHall {
             return rows;
         }
 
-        private void open(Talk held, int y) {
+        void open(Talk held, int y) {
             asker.sit(held.saying, held.law, held.prime);
             talk = held;
             gaveUp = NONE;
