@@ -391,12 +391,13 @@ public final class LiarHall {
             return NONE;
         }
         boolean alike = first.isAlike(second, shuffled);
+        // Of two that are ALIKE the giant tells the NET of the lower number, also where that is the one told second.
+        int told = one < other ? 0 : 1;
         long x = seed;
         int right = 0;
         for (int round = 0; round < rounds; round++) {
             x = x * FACTOR + ADDEND;
-            // Of two that are ALIKE the giant always tells 0, the first told.
-            if (!alike || (x >>> 33 & 1) == 0) {
+            if (!alike || (x >>> 33 & 1) == told) {
                 right++;
             }
         }

@@ -796,7 +796,7 @@ public final class PromiseTest {
             right += (x >>> 33) % 2 == 0 ? 1 : 0;
         }
         is("alike", hall.unlike(0, 2, 9, 30), right);
-        is("alike, the higher net told first", hall.unlike(2, 0, 9, 30), right);
+        is("alike, the higher net told first", hall.unlike(2, 0, 9, 30), 30 - right);
         DUE.is("the run tells something", right != 15 && right != 0 && right != 30, true);
         is("no rounds", hall.unlike(0, 1, 9, 0), -1);
         is("31 rounds", hall.unlike(0, 1, 9, 31), -1);
@@ -804,6 +804,13 @@ public final class PromiseTest {
         is("of unlike points", hall.unlike(2, 3, 9, 3), -1);
         is("no such", hall.unlike(0, 4, 9, 3), -1);
         is("no such", hall.unlike(-1, 0, 9, 3), -1);
+        // By seed 0 x is 1442695040888963407 first, which is odd shifted right by 33: the one told second.
+        is("alike, the lower net told second", hall.unlike(2, 0, 0, 1), 1);
+        is("alike, the lower net told first", hall.unlike(0, 2, 0, 1), 0);
+        is("not alike, told second", hall.unlike(1, 0, 0, 1), 1);
+        hall.net(3, 4);
+        is("alike, 4 and 2", hall.unlike(4, 2, 0, 1), 1);
+        is("alike, 2 and 4", hall.unlike(2, 4, 0, 1), 0);
     }
 
     /** Promise 36. */

@@ -74,14 +74,14 @@ public final class TablesTest {
         long seed = RANDOM.nextLong();
         int rounds = 1 + RANDOM.nextInt(30);
         for (int first = 0; first < 2; first++) {
-            // Which of both is 0 for the first told, so that 0 is the lower number, whichever net that is.
             int right = 0;
             long x = seed;
             for (int round = 0; round < rounds; round++) {
                 x = x * Model.FACTOR + Model.ADDEND;
                 int was = (int) ((x >>> 33) % 2);
-                int told = least == null ? was : 0;
-                right += told == was ? 1 : 0;
+                int shuffled = was == 0 ? first : 1 - first;
+                int told = least == null ? shuffled : Math.min(first, 1 - first);
+                right += told == shuffled ? 1 : 0;
             }
             due.is("unlike from " + first + both, hall.unlike(first, 1 - first, seed, rounds), right);
         }
