@@ -302,7 +302,8 @@ public final class LiarHall {
             return NONE;
         }
         asker.sit(held.saying, held.law, held.prime);
-        return asker.mostRoots(round);
+        // m is a part of BEST, and BEST is told of the TALK as a whole.
+        return asker.tellsBest() ? asker.mostRoots(round) : NONE;
     }
 
     public int small(int saying, int law, int m) {
@@ -1254,9 +1255,6 @@ public final class LiarHall {
         /** A CURVE with roots at 0, 2, 3, .. has none at 1, and with roots at both 0 and 1 it would sum up to 0. */
         int mostRoots(int round) {
             int dice = dice(round);
-            if (dice > MOST_DICE) {
-                return NONE;
-            }
             if (!asksForSum(round)) {
                 return dice;
             }

@@ -9,7 +9,8 @@ public final class ModelTest {
     private static final Random RANDOM = new Random(11);
     private static final int[] PRIMES = {3, 5, 7, 11, 13, 31, 97, 499, 997, 1009, 65537, 1000000007};
     private static final String[] LAWS = {"c:1;e:1;d:p", "c:1;e:1;d:2", "c:1;e:1;d:i+1", "e:1;d:3", "c:1;d:k+1",
-        "c:i>0?1;e:1;d:5", "c:1;e:i=n?1;d:p/2", "c:1;e:k=0?1;d:1000", "e:1;c:1-i;d:n*3", "c:1;e:1;d:i=0?9;d:1"};
+        "c:i>0?1;e:1;d:5", "c:1;e:i=n?1;d:p/2", "c:1;e:k=0?1;d:1000", "e:1;c:1-i;d:n*3", "c:1;e:1;d:i=0?9;d:1",
+        "d:3+2000*i", "c:1;e:1;d:999+i", "c:i;e:1;d:1003-i*3"};
     private static final String[] GIANTS = {"s:c;v:t", "s:c+1;v:t", "s:4;v:c/2", "s:c+1;v:t+[c-w]/2", "s:y;v:t+y*j",
         "s:c+1;v:j=0?t+c-w;v:t", "s:0-1;v:l*j+i-y", "s:t+w;v:t*w-n/2", "s:c+1;v:t+[c-w]*[p+1]/2", "v:9999*9999*j"};
 
@@ -146,15 +147,23 @@ public final class ModelTest {
         due.is("spent" + all, hall.spent(0, 0), model.spent());
         due.is("alone" + all, hall.spent(0, 1), (long) Model.workOf(model.saying) << model.names);
         for (int round = 0; round < model.names; round++) {
-            int steep = Model.steepOf(model.saying, round);
-            if (model.prime <= 7 && steep <= 3) {
-                boolean asks = model.lawWorth('c', round) != 0;
-                int dice = (int) model.dice(round);
-                due.is("roots " + round + all, hall.roots(0, round),
-                        asks ? Model.mostRoots(model.prime, steep, dice) : dice);
-            }
+            roots(due, all, hall, model, round);
         }
         smallest(due, all, hall, model);
+    }
+
+    /** Where BEST is told m is found by trying all CURVES, if they are few. */
+    private static void roots(Due due, String all, LiarHall hall, Model model, int round) {
+        int steep = Model.steepOf(model.saying, round);
+        boolean asks = model.lawWorth('c', round) != 0;
+        int dice = (int) model.dice(round);
+        if (model.chance(true) == null) {
+            due.is("roots not told " + round + all, hall.roots(0, round), -1);
+        } else if (!asks) {
+            due.is("roots not asked " + round + all, hall.roots(0, round), dice);
+        } else if (model.prime <= 7 && steep <= 3) {
+            due.is("roots " + round + all, hall.roots(0, round), Model.mostRoots(model.prime, steep, dice));
+        }
     }
 
     private static void smallest(Due due, String all, LiarHall hall, Model model) {

@@ -653,8 +653,34 @@ public final class PromiseTest {
         chanceIs("f", 317, all, -1, -1, -1, -1);
         chanceIs("f", 313, all, 1, 313, 1, 313);
         chanceIs("a&e", 1009, "c:1;e:1;d:1000", 1999, 1000000, 1, 500);
-        is("m by too many dice", Due.talk("a", 1009, all, "v:t").roots(0, 0), -1);
-        is("m by 997 dice", Due.talk("f", 997, all, "v:t").roots(0, 5), 1);
+        rootsAre("a", 1009, all, -1);
+        rootsAre("a", 997, all, 1);
+        rootsAre("a", 1009, "c:1;e:1;d:1000", 1);
+        rootsAre("a", 1009, "c:1;e:1;d:1001", -1);
+        rootsAre("a", 1009, "d:1001", -1);
+        // D of another ROUND is above 1,000.
+        rootsAre("a|b", 500000003, "d:3+2000*i", -1, -1);
+        rootsAre("a|b", 500000003, "c:1;e:1;d:3+2000*i", -1, -1);
+        rootsAre("a|b", 500000003, "c:1;e:1;d:2003-2000*i", -1, -1);
+        rootsAre("a|b", 500000003, "c:i;e:1;d:3+997*i", 3, 1);
+        rootsAre("a|b", 500000003, "c:i;e:1;d:3+998*i", -1, -1);
+        // The product of all D is above 10^15.
+        rootsAre("f", 317, all, -1, -1, -1, -1, -1, -1);
+        rootsAre("f", 317, "d:p", -1, -1, -1, -1, -1, -1);
+        rootsAre("f", 313, all, 0, 0, 0, 0, 0, 1);
+        rootsAre("f", 997, "c:1;e:1;d:i<5?p;d:2", -1, -1, -1, -1, -1, -1);
+        rootsAre("a&e", 1009, "c:1;e:1;d:1000", 1, 0, 0, 0, 1);
+        rootsAre("a&f", 1009, "c:1;e:1;d:i<5?1000;d:1", 1, 0, 0, 0, 0, 1);
+        rootsAre("a&f", 1009, "c:1;e:1;d:i<5?1000;d:2", -1, -1, -1, -1, -1, -1);
+    }
+
+    private static void rootsAre(String saying, int prime, String law, int... want) {
+        LiarHall hall = Due.talk(saying, prime, law, "v:t");
+        for (int round = 0; round < want.length; round++) {
+            is("roots " + round + " of " + saying + " / " + prime + " / " + law, hall.roots(0, round), want[round]);
+        }
+        is("roots behind all ROUNDS", hall.roots(0, want.length), -1);
+        is("BEST as m", hall.best(0, 1) == -1 ? 1 : 0, want[0] == -1 ? 1 : 0);
     }
 
     /** Promise 28. */
