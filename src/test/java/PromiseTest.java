@@ -260,7 +260,9 @@ public final class PromiseTest {
             }
             DUE.is("prime " + number, hall.prime(number), prime);
         }
-        int[] strong = {2047, 1373653, 25326001, 314821, 3215031, 29341, 561, 999999999, 1000000005, 25 * 40000001};
+        // The last nine pass Miller and Rabin's test by two of 2, 7 and 61.
+        int[] strong = {2047, 1373653, 25326001, 3215031, 29341, 561, 999999999, 1000000005, 25 * 40000001, 916327, 2205967,
+            967714021, 314821, 2269093, 348989101, 79381, 178709, 721801};
         for (int number : strong) {
             DUE.is("prime " + number, hall.prime(number), false);
         }
