@@ -75,7 +75,7 @@ public final class ModelTest {
         due.is("curve of " + laid + " modulo " + prime + " at " + x, hall.curve(prime, x), curve);
     }
 
-    private static long game(String bare, int turns, long prime, long[] point, int played) {
+    static long game(String bare, int turns, long prime, long[] point, int played) {
         if (played == Model.namesOf(bare)) {
             return Model.sumOver(bare, point, 6, prime);
         }

@@ -25,7 +25,7 @@ public final class TablesTest {
         return (edges >> Math.max(u, v) * (Math.max(u, v) - 1) / 2 + Math.min(u, v) & 1) == 1;
     }
 
-    private static int moved(int edges, int points, List<Integer> row) {
+    static int moved(int edges, int points, List<Integer> row) {
         int all = 0;
         for (int v = 1; v < points; v++) {
             for (int u = 0; u < v; u++) {
@@ -38,7 +38,7 @@ public final class TablesTest {
     }
 
     /** All rows from the least up. */
-    private static void rows(int points, List<Integer> row, List<List<Integer>> all) {
+    static void rows(int points, List<Integer> row, List<List<Integer>> all) {
         if (row.size() == points) {
             all.add(new ArrayList<>(row));
         }
